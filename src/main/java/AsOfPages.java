@@ -1606,13 +1606,27 @@ public final class AsOfPages {
             x = by;
             size = 0;
             all.open();
-            grow(page, day, 0, NONE);
+            grow(this, page, day, 0, NONE);
         }
 
-        private void grow(int page, int from, int depth, int inside) {
-            if (depth > DEEPEST || size >= MOST_ELEMENTS) {
+        private static void grow(View into, int page, int from, int depth, int inside) {
+            if (depth > DEEPEST || into.size >= MOST_ELEMENTS) {
                 return;
             }
+            int me = into.size;
+            int held = into.put(page, from, depth, inside);
+            if (held == NONE) {
+                return;
+            }
+            Archive archive = into.x.of;
+            int onward = into.walk.onwardDay(from);
+            for (int i = 0; i < archive.partCount[held]; i++) {
+                grow(into, archive.part(held, i), onward, depth + 1, me);
+            }
+        }
+
+        /** One ELEMENT more: its BODY, NONE without. */
+        private int put(int page, int from, int depth, int inside) {
             int me = size;
             size++;
             pageOf[me] = page;
@@ -1622,21 +1636,14 @@ public final class AsOfPages {
                 lastOf[me] = NONE;
                 stateOf[me] = NESTED;
                 spansOf[me].open();
-                return;
+                return NONE;
             }
             walk.trace(x, page, from);
             lastOf[me] = walk.last;
             stateOf[me] = walk.state;
             walk.putSpans(spansOf[me]);
             all.narrow(spansOf[me]);
-            int held = walk.bodyFound();
-            if (held == NONE) {
-                return;
-            }
-            int onward = walk.onwardDay(from);
-            for (int i = 0; i < x.of.partCount[held]; i++) {
-                grow(x.of.part(held, i), onward, depth + 1, me);
-            }
+            return walk.bodyFound();
         }
 
         private boolean liesIn(int page, int inside) {

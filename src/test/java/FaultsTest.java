@@ -40,6 +40,7 @@ public final class FaultsTest {
         tells(HEAD + "page law;page carry;page at;page is;page to;body weight weight 999;"
             + "shot at at 365 is weight;move to at 0 to to;", 9);
         tells(TWO + "page abcdef;", 4);
+        tells(TWO + "page az;page zz;page za;page a;gone za at 09;gone az at 90;", 9);
         tells(TWO + "body r weight 1 part p part p part p part p link p link p link p link p;", 4);
         tells(TWO + "body r weight 1 link p;", 4);
         tells(TWO + "page pp;shot p at 1 is q;same pp at 1;gone p at 2;move pp at 2 to p;", 8);
@@ -76,6 +77,10 @@ public final class FaultsTest {
         failsAt(HEAD + "|;", 1);
         failsAt(HEAD + "|7;", 1);
         failsAt(HEAD + "|find p;", 1);
+        failsAt(HEAD + "|cage p;", 1);
+        failsAt(HEAD + "|pages p;", 1);
+        failsAt(HEAD + "|pag p;", 1);
+        failsAt(HEAD + "|pagf p;", 1);
         failsAt(HEAD + "|part p;", 1);
         failsAt(HEAD + "page |7;", 1);
         failsAt(HEAD + "page |;", 1);
@@ -193,6 +198,28 @@ public final class FaultsTest {
         CHECK.due("fault(1) of bytes 255", x.fault(1), 0);
     }
 
+    /** What was cut off the TAPE must not be read. */
+    private static void cutTape() {
+        for (String text : new String[] {HEAD + "page pqr;", HEAD + "page p;gone p at 12;", HEAD + "page p;"}) {
+            for (int n = HEAD.length() + 1; n < text.length(); n++) {
+                AsOfPages x = new AsOfPages();
+                Check.feedText(x, text);
+                CHECK.due("end", x.end(n), n);
+                boolean whole = text.charAt(n - 1) == ';';
+                CHECK.due("'" + text + "' cut at " + n, x.archive(), whole ? 2 : -4);
+                CHECK.due("'" + text + "' cut at " + n + ", place", x.fault(1), whole ? -1 : cutPlace(text, n));
+            }
+        }
+        fails(HEAD + "page " + times(1200 - 5 - HEAD.length(), "p"), 2, HEAD.length() + 5);
+        fails(HEAD + times(1200 - HEAD.length(), "7"), 1, HEAD.length());
+    }
+
+    /** A word (of the first, at) cut short is the fault itself, all else that stands there lacks what is behind it. */
+    private static int cutPlace(String text, int n) {
+        int line = text.lastIndexOf(';', n - 1) + 1;
+        return n - line < 4 ? line : text.startsWith(" at", n - 2) ? n - 1 : n;
+    }
+
     private static void whatStays() {
         AsOfPages x = CHECK.with("archive law 1 carry 1;page p;body q weight 7;shot p at 3 is q;");
         x.add(0, 9, 3, 0);
@@ -223,6 +250,7 @@ public final class FaultsTest {
 
     public static void main(String[] args) {
         tape();
+        cutTape();
         texts();
         misplaced();
         notAsSaid();

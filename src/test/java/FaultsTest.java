@@ -9,26 +9,15 @@ public final class FaultsTest {
     }
 
     private static void fails(String text, int kind, int place) {
-        AsOfPages x = new AsOfPages();
-        CHECK.due("archive of '" + text + "'", Check.load(x, text), -4);
-        CHECK.due("fault(0) of '" + text + "'", x.fault(0), kind);
-        CHECK.due("fault(1) of '" + text + "'", x.fault(1), place);
-        CHECK.due("fault(2)", x.fault(2), -1);
-        CHECK.due("fault(-1)", x.fault(-1), -1);
-        CHECK.due("tape behind '" + text + "'", x.count(7), 0);
+        CHECK.fails(text, kind, place);
     }
 
-    /** The fault lies where a bar stands in the text (the bar is taken out). */
     private static void failsAt(String text, int kind) {
-        fails(text.replace("|", ""), kind, text.indexOf('|'));
+        CHECK.failsAt(text, kind);
     }
 
     private static void tells(String text, int lines) {
-        AsOfPages x = new AsOfPages();
-        CHECK.due("archive of '" + text + "'", Check.load(x, text), lines);
-        CHECK.due("fault(0) of '" + text + "'", x.fault(0), 0);
-        CHECK.due("fault(1) of '" + text + "'", x.fault(1), -1);
-        CHECK.due("count(6) of '" + text + "'", x.count(6), lines);
+        CHECK.tells(text, lines);
     }
 
     private static void texts() {

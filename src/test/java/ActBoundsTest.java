@@ -296,6 +296,14 @@ public final class ActBoundsTest {
         }
         AsOfPages none = CHECK.with(HEAD);
         due("rule without PAGES", none.rule(0, 1), 0);
+        AsOfPages high = CHECK.with("archive law 2 carry 1;page a;");
+        high.rule(0, 0);
+        high.rule(1, 1);
+        high.undo();
+        due("LAW and CARRY 0 again", high.count(0) + high.count(1), 0);
+        high.undo();
+        due("LAW 2 again", high.count(0), 2);
+        due("CARRY 1 again", high.count(1), 1);
     }
 
     // Promises 49 and 50.
@@ -369,6 +377,7 @@ public final class ActBoundsTest {
         due("the FAULT is none of it", Check.load(x, "#"), -4);
         due("back", x.back(2), 0);
         due("the FAULT is none of it", x.fault(0), 1);
+        backOverAnother();
         AsOfPages full = withTwentyActs(0);
         full.image(1);
         full.anew();
@@ -381,6 +390,37 @@ public final class ActBoundsTest {
         }
         due("no more", full.undo(), -5);
         due("40 SHOTS", full.count(4), 40);
+    }
+
+    /** What an image has is all of it, whatever ARCHIVE there is when one goes back. */
+    private static void backOverAnother() {
+        String[] others = {"archive law 0 carry 0;page z;gone z at 1;gone z at 365;", HEAD, "",
+            "archive law 2 carry 0;page b;page a;page d;page e;body z weight 9;body y weight 9;body x weight 8 part a;"
+            + "gone a at 1;gone b at 2;gone d at 3;gone e at 4;gone e at 5;shot e at 6 is y;"};
+        for (String other : others) {
+            AsOfPages x = CHECK.with(SITE);
+            x.drop(2);
+            x.rule(2, 1);
+            x.add(1, 365, 2, 0);
+            x.add(1, 300, 0, 0);
+            x.image(1);
+            String kept = Check.look(x);
+            Check.load(x, other);
+            Check.look(x);
+            if (x.count(4) > 0) {
+                x.drop(0);
+                x.drop(0);
+            }
+            due("back", x.back(1), 0);
+            CHECK.due("all as kept", Check.look(x), kept);
+            due("undo", x.undo(), 3);
+            due("undo", x.undo(), 2);
+            due("SHOTS", x.count(4), 4);
+            due("undo", x.undo(), 1);
+            due("LAW", x.count(0), 1);
+            due("undo", x.undo(), 0);
+            CHECK.due("all as told", Check.look(x), Check.look(CHECK.with(SITE)));
+        }
     }
 
     // Promises 51 and 52.
@@ -416,6 +456,22 @@ public final class ActBoundsTest {
         due("undo of no more", twenty.undo(), -5);
     }
 
+    /** Each act alone, looked at ahead of it, behind it, and taken back. */
+    private static void undoOfOne() {
+        String told = Check.look(CHECK.with(SITE));
+        Call[] acts = {y -> y.drop(0), y -> y.drop(4), y -> y.add(0, 0, 3, 0), y -> y.add(2, 365, 0, 1),
+            y -> y.rule(1, 1), y -> y.rule(2, 0), y -> y.add(1, 0, 2, 2), y -> y.add(1, 31, 1, 0)};
+        for (int i = 0; i < acts.length; i++) {
+            AsOfPages x = CHECK.with(SITE);
+            CHECK.due("ahead of act " + i, Check.look(x), told);
+            acts[i].on(x);
+            due("act " + i + " is one", x.count(5), 1);
+            due("as ahead of act " + i, Check.look(x).equals(told) ? 1 : 0, 0);
+            due("undo of act " + i, x.undo(), 0);
+            CHECK.due("act " + i + " taken back", Check.look(x), told);
+        }
+    }
+
     /** "All are: how many there were. -2 likewise". */
     private static void anew() {
         due("anew without an ARCHIVE", new AsOfPages().anew(), -2);
@@ -424,6 +480,7 @@ public final class ActBoundsTest {
         due("anew of none", x.anew(), 0);
         CHECK.due("all behind anew of none", Check.look(x), told);
         x.drop(2);
+        due("one less", Check.look(x).equals(told) ? 1 : 0, 0);
         due("anew of one", x.anew(), 1);
         CHECK.due("all behind anew of one", Check.look(x), told);
         due("no act", x.undo(), -5);
@@ -466,6 +523,7 @@ public final class ActBoundsTest {
         imagesApart();
         back();
         undo();
+        undoOfOne();
         anew();
         actsAgain();
         CHECK.finish();

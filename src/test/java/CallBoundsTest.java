@@ -383,6 +383,7 @@ public final class CallBoundsTest {
         followedSo(y, 0, 50, -1, 2, 4);
         followedSo(y, 0, 91, 2, 1, 0);
         followedSo(y, 1, 50, 2, 2, 0);
+        due("followed, the first call of all", CHECK.with(STATES).followed(0, 0, 0), 0);
     }
 
     /** "behind each ELEMENT that ENDS at a SHOT with a BODY, and lies less than 3 deep, its PARTS in order". */
@@ -506,6 +507,7 @@ public final class CallBoundsTest {
         due("whole with PARTS", parts.whole(0, 1), 1);
         parts.drop(2);
         due("whole but for the last", parts.whole(0, 1), 0);
+        due("whole, of fewer ELEMENTS", parts.whole(1, 1), 1);
     }
 
     // Term III.
@@ -557,6 +559,9 @@ public final class CallBoundsTest {
         AsOfPages apart = CHECK.with(HEAD + "page a;body k weight 1;shot a at 10 is k;gone a at 11;shot a at 12 is k;"
             + "move a at 13 to a;shot a at 14 is k;same a at 15;");
         due("runs of one BODY, three times", apart.runs(0), 3);
+        AsOfPages broken = CHECK.with(HEAD + "page a;body k weight 1;same a at 1;shot a at 2 is k;");
+        runOf(broken, 1, 2, 2, 2, 365, 1);
+        due("runs behind a BROKEN one", broken.runs(0), 1);
         AsOfPages all = CHECK.with(goneDays(40));
         runOf(all, 39, 0, 39, 0, 365, 40);
     }
@@ -619,6 +624,41 @@ public final class CallBoundsTest {
         due("no culprit alone", x.culprit(0, 10), -1);
     }
 
+    /** The ELEMENT that stood later is the first of the two: they meet on one DAY, then on none. */
+    private static void clashOfTheLater() {
+        String text = "archive law 0 carry 1;page a;page b;page c;body k weight 1 part b;body l weight 2 part c;"
+            + "body m weight 3;gone a at #;shot a at 40 is k;shot b at 10 is l;shot c at 5 is m;gone c at 20;";
+        int[][] rows = {{17, 1, -1}, {18, 1, -1}, {19, 0, 2}, {20, 0, 2}};
+        for (int[] row : rows) {
+            AsOfPages x = CHECK.with(text.replace("#", String.valueOf(row[0])));
+            due("judged, a behind DAY " + row[0], x.judged(0, 40), row[1]);
+            due("clash, a behind DAY " + row[0], x.clash(0, 40), row[2]);
+            due("culprit, a behind DAY " + row[0], x.culprit(0, 40), row[2] == 2 ? 0 : -1);
+        }
+    }
+
+    /** c, in b, came behind DAY 30; d, behind it in the VIEW, was gone by DAY 26. */
+    private static void clashOfNeighbours() {
+        AsOfPages x = CHECK.with("archive law 0 carry 1;page a;page b;page c;page d;body k weight 1 part b part d;"
+            + "body l weight 1 part c;body m weight 1;body n weight 1 part b part a;shot a at 10 is k;shot b at 40 is l;"
+            + "gone c at 30;shot c at 45 is m;shot d at 12 is m;gone d at 26;");
+        CHECK.due("the VIEW", told(x, 0, 10), "p0@10[p1@40[p2@45] p3@12]");
+        due("clash of 2 and 3", x.clash(0, 10), 203);
+        due("culprit of 2 and 3", x.culprit(0, 10), 2);
+        // Where a VIEW ahead had c, there is a NESTED one: it has no SPANS.
+        x.add(2, 100, 3, 0);
+        x.add(3, 100, 0, 3);
+        x.add(3, 120, 3, 0);
+        CHECK.due("the VIEW ahead", told(x, 0, 10), "p0@10[p1@40[p2@45] p3@12]");
+        AsOfPages y = CHECK.with(apart(19).replace("body m", "page d;page e;body n weight 1 part e;body o weight 1 part d;body m")
+            + "shot d at 10 is n;gone d at 15;shot e at 10 is o;");
+        due("clash ahead", y.clash(0, 0), 2);
+        CHECK.due("the VIEW with a NESTED one", told(y, 3, 0), "p3@10[p4@10[p3^]]");
+        due("clash of two", y.clash(0, 0), 2);
+        due("no clash with a NESTED one", y.clash(3, 0), -1);
+        due("no culprit, either", y.culprit(3, 0), -1);
+    }
+
     /** "MAY SPANS (of the one, of the other)": SPANS of one ELEMENT alone that are apart are not two ELEMENTS'. */
     private static void clashOfOne() {
         AsOfPages x = CHECK.with("archive law 0 carry 1;page a;page b;page c;body n weight 3;"
@@ -665,6 +705,11 @@ public final class CallBoundsTest {
         answers("days", always, (y, judged) -> y.days(3, judged), none);
         answers("firstDay", first, (y, judged) -> y.firstDay(3, judged), none);
         answers("bothOn", first, (y, judged) -> y.bothOn(3, 3, judged), none);
+        AsOfPages bare = CHECK.with(HEAD + "page a;");
+        answers("days without SHOTS", always, (y, judged) -> y.days(0, judged), bare);
+        answers("firstDay without SHOTS", first, (y, judged) -> y.firstDay(0, judged), bare);
+        answers("bothOn without SHOTS", first, (y, judged) -> y.bothOn(0, 0, judged), bare);
+        due("bestDay without SHOTS", bare.bestDay(0), -1);
         // On the last DAY alone b has a SHOT that stood on a DAY of the RUN of a.
         AsOfPages last = CHECK.with("archive law 2 carry 0;page a;page b;body k weight 1 part b;body l weight 2;"
             + "shot a at 9 is k;same a at 365;gone b at 1;shot b at 365 is l;");
@@ -699,6 +744,9 @@ public final class CallBoundsTest {
         due("changes of 40", full.changes(0), 39);
         due("the last of 40", full.change(0, 38), 39);
         due("behind the last of 40", full.change(0, 39), -1);
+        AsOfPages more = CHECK.with("archive law 2 carry 0;page a;page b;body k weight 1 part b;body l weight 1;"
+            + "gone b at 7;shot a at 10 is l;shot a at 20 is k;");
+        answers("change by a PART more", new int[] {20, -1}, (y, k) -> y.change(0, k), more);
         // LOST, then ROUND: the STATE alone is another. By another move to one end: none is.
         AsOfPages states = CHECK.with("archive law 2 carry 0;page a;page b;page c;gone c at 1;move a at 10 to b;"
             + "move a at 20 to a;");
@@ -744,6 +792,8 @@ public final class CallBoundsTest {
             due("blank of DAYS " + row[0] + ", " + row[1], x.blank(0), row[2]);
         }
         due("blank of none", CHECK.with(STATES).blank(3), -1);
+        AsOfPages two = CHECK.with(HEAD + "page a;page b;page c;gone b at 0;gone a at 365;gone c at 365;");
+        answers("blank of PAGES", new int[] {0, 365, 0}, (y, page) -> y.blank(page), two);
         due("blank of 40", CHECK.with(goneDays(40)).blank(0), 365);
     }
 
@@ -772,6 +822,10 @@ public final class CallBoundsTest {
             x.add(0, 10 + b, 0, b);
         }
         due("unused, none", x.unused(), 0);
+        AsOfPages turns = CHECK.with(HEAD + "page a;body k weight 3;body l weight 50;shot a at 1 is k;shot a at 2 is l;"
+            + "shot a at 3 is k;shot a at 4 is l;");
+        due("stored(0), by turns", turns.stored(0), 106);
+        due("stored(1), by turns", turns.stored(1), 53);
         AsOfPages y = CHECK.with(STATES);
         due("stored(0), gone, BROKEN, moves aside", y.stored(0), 15);
         due("stored(1)", y.stored(1), 15);
@@ -823,6 +877,21 @@ public final class CallBoundsTest {
         }
     }
 
+    /** By CARRY 1 a PAGE may be come to on several DAYS, and each leads on by itself. */
+    private static void clicksOnSeveralDays() {
+        AsOfPages x = CHECK.with("archive law 0 carry 1;page a;page b;page c;page d;body k weight 1 link b;"
+            + "body l weight 1 link d;body m weight 1 link c;shot a at 10 is k;shot b at 12 is l;shot b at 200 is m;"
+            + "shot d at 150 is k;");
+        for (int again = 0; again < 2; again++) {
+            answers("reach by", new int[] {1, 3, 11, 11, 15}, (y, n) -> y.reach(0, 0, n), x);
+            answers("clicks to", new int[] {0, 1, 4, 2}, (y, to) -> y.clicks(0, 0, to), x);
+            answers("clicks from b to", new int[] {-1, 0, 1, -1}, (y, to) -> y.clicks(1, 365, to), x);
+        }
+        x.rule(0, 0);
+        answers("clicks to by CARRY 0", new int[] {0, 1, -1, 2}, (y, to) -> y.clicks(0, 0, to), x);
+        answers("clicks to by CARRY 0, later", new int[] {0, 1, 2, -1}, (y, to) -> y.clicks(0, 365, to), x);
+    }
+
     /** "PAGES (bits) that .. END at a BODY with a LINK to a PAGE"; "to which .. some LINK .. leads, .. do not END at a BODY". */
     private static void linkingAndDead() {
         AsOfPages x = CHECK.with(pages(6) + "body k weight 1 link b link c link d link e;body l weight 1 link a link f;"
@@ -838,6 +907,9 @@ public final class CallBoundsTest {
         due("linking, all", all.linking(7, 0), 255);
         due("dead, none", all.dead(0), 0);
         due("linking, none", all.linking(0, 0), 0);
+        AsOfPages unlinked = CHECK.with(HEAD + "page a;page b;page c;body k weight 1 link c;gone a at 1;shot b at 1 is k;"
+            + "shot c at 1 is k;");
+        due("dead, not what has no LINK", unlinked.dead(0), 0);
         // One of two LINKS leads to a DAY on which b is gone.
         AsOfPages some = CHECK.with("archive law 0 carry 1;page a;page b;page c;body k weight 1 link b;"
             + "shot a at 10 is k;shot b at 10 is k;shot c at 100 is k;gone b at 100;");
@@ -864,6 +936,16 @@ public final class CallBoundsTest {
         due("spare, not for one DAY", last.spare(), 0);
         last.drop(1);
         due("spare, either", last.spare(), 3);
+        AsOfPages eight = CHECK.with(pages(8) + "gone h at 1;gone h at 2;gone a at 1;gone g at 3;");
+        due("spare of eight PAGES", eight.spare(), 3);
+        StringBuilder ten = new StringBuilder("archive law 2 carry 0;page a;");
+        for (int b = 0; b < 10; b++) {
+            ten.append("body ").append((char) ('k' + b)).append(" weight ").append(b + 1).append(';');
+        }
+        for (int b = 0; b < 10; b++) {
+            AsOfPages one = CHECK.with(ten + "shot a at 1 is " + (char) ('k' + b) + ";gone a at 2;same a at 3;move a at 4 to a;");
+            due("spare, BODY " + b + " is no STATE", one.spare(), 0);
+        }
         // gone, BROKEN, LOST, ROUND: none has a BODY, but STATES differ.
         AsOfPages states = CHECK.with("archive law 2 carry 0;page a;page b;gone a at 10;same a at 20;move a at 30 to b;"
             + "move a at 40 to a;");
@@ -915,6 +997,10 @@ public final class CallBoundsTest {
         AsOfPages digits = CHECK.with(pages(8) + "body k weight 1 part b part c part d part e;"
             + "body l weight 1 part g part h;shot a at 0 is k;gone b at 9;gone c at 10;gone d at 99;shot e at 100 is l;"
             + "gone g at 365;move h at 9 to h;");
+        AsOfPages hundreds = CHECK.with(HEAD + "page a;gone a at 198;gone a at 299;gone a at 301;");
+        CHECK.due("DAY 198", told(hundreds, 0, 0), "p0@198!");
+        CHECK.due("DAY 299", told(hundreds, 0, 299), "p0@299!");
+        CHECK.due("DAY 301", told(hundreds, 0, 365), "p0@301!");
         CHECK.due("DAYS of one, two, three digits", told(digits, 0, 0), "p0@0[p1@9! p2@10! p3@99! p4@100[p6@365! p7~]]");
     }
 
@@ -975,6 +1061,8 @@ public final class CallBoundsTest {
         provedByOneDay();
         openByOneDay();
         lateClash();
+        clashOfTheLater();
+        clashOfNeighbours();
         clashOfOne();
         spreadAndFarthest();
         heavy();
@@ -985,6 +1073,7 @@ public final class CallBoundsTest {
         storedAndUnused();
         click();
         farClicks();
+        clicksOnSeveralDays();
         linkingAndDead();
         spare();
         by();

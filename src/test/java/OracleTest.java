@@ -10,6 +10,8 @@ import java.util.Random;
 public final class OracleTest {
     private static final Check CHECK = new Check();
     private static final List<Method> CALLS = new ArrayList<>();
+    /** What later calls of an object answer is free. */
+    private static final int MOST_CALLS = 512;
     private static final String[] WORDS = {"archive", "law", "carry", "page", "body", "weight", "part", "link", "shot",
         "at", "is", "same", "move", "to", "gone", "pa", "ba", "zz", "sevenxx", "0", "1", "2", "365", "366", "999",
         "1000", ";", ";", "\n", "#", "A"};
@@ -20,6 +22,7 @@ public final class OracleTest {
     private final StringBuilder log = new StringBuilder();
     private final boolean crowded;
     private final int calendar;
+    private int calls;
 
     private OracleTest(int seed) {
         random = new Random(seed);
@@ -125,6 +128,10 @@ public final class OracleTest {
     }
 
     private void compare(Method m, int[] numbers) {
+        if (calls == MOST_CALLS) {
+            return;
+        }
+        calls++;
         Object[] args = new Object[numbers.length];
         StringBuilder call = new StringBuilder(m.getName()).append('(');
         for (int i = 0; i < numbers.length; i++) {
@@ -158,7 +165,7 @@ public final class OracleTest {
     }
 
     private int somePage() {
-        return some(x.count(2));
+        return some(oracle.count(2));
     }
 
     private int someDay() {
@@ -167,8 +174,8 @@ public final class OracleTest {
 
     private void query(Method m) {
         switch (m.getName()) {
-            case "shot", "run" -> compare(m, new int[] {some(x.count(4)), some(5)});
-            case "body" -> compare(m, new int[] {some(x.count(3)), oneIn(2) ? some(5) : 10 + below(15)});
+            case "shot", "run" -> compare(m, new int[] {some(oracle.count(4)), some(5)});
+            case "body" -> compare(m, new int[] {some(oracle.count(3)), oneIn(2) ? some(5) : 10 + below(15)});
             case "shots", "changes", "runs", "bestDay", "blank" -> compare(m, new int[] {somePage()});
             case "byDay", "change" -> compare(m, new int[] {somePage(), some(8)});
             case "days", "firstDay" -> compare(m, new int[] {somePage(), some(3)});
@@ -197,8 +204,8 @@ public final class OracleTest {
 
     private void act() {
         switch (below(12)) {
-            case 0, 1, 2, 3, 4 -> call("add", somePage(), some(calendar + 1), some(4), some(x.count(3)));
-            case 5, 6 -> call("drop", some(x.count(4)));
+            case 0, 1, 2, 3, 4 -> call("add", somePage(), some(calendar + 1), some(4), some(oracle.count(3)));
+            case 5, 6 -> call("drop", some(oracle.count(4)));
             case 7 -> call("rule", some(3), some(2));
             case 8 -> call("undo");
             case 9 -> call("image", some(3));
@@ -215,17 +222,19 @@ public final class OracleTest {
         int page = somePage();
         int day = someDay();
         call("tell", page, day);
-        for (int i = 0; x.octet(i) >= 0; i++) {
+        for (int i = 0; oracle.octet(i) >= 0; i++) {
             call("octet", i);
         }
     }
 
     private void run() {
-        for (int round = 0; round < 3; round++) {
+        while (calls < MOST_CALLS) {
             load();
-            for (int i = 0; i < 6; i++) {
-                wholeView();
-                for (int k = below(6); k > 0; k--) {
+            for (int i = 1 + below(5); i > 0; i--) {
+                if (oneIn(3)) {
+                    wholeView();
+                }
+                for (int k = below(oneIn(5) ? 30 : 6); k > 0; k--) {
                     act();
                 }
                 for (Method m : CALLS) {
@@ -246,7 +255,7 @@ public final class OracleTest {
         }
         all.sort(Comparator.comparing(Method::getName));
         CALLS.addAll(all);
-        int runs = args.length == 1 ? Integer.parseInt(args[0]) : 80;
+        int runs = args.length == 1 ? Integer.parseInt(args[0]) : 400;
         for (int seed = 1; seed <= runs && CHECK.isClean(); seed++) {
             new OracleTest(seed).run();
         }

@@ -326,6 +326,8 @@ public final class TextBoundsTest {
         CHECK.failsAt("|law 0 carry 0;", 1);
         CHECK.failsAt("|archiv law 0 carry 0;", 1);
         CHECK.failsAt("|archives law 0 carry 0;", 1);
+        CHECK.failsAt("|brchive law 0 carry 0;", 1);
+        CHECK.failsAt("|archivf law 0 carry 0;", 1);
         CHECK.failsAt(HEAD + "page |archive;", 2);
         CHECK.failsAt(ONE + "shot a at 1 is |archive;", 2);
         CHECK.failsAt(ONE + "shot |is at 1 is k;", 2);
@@ -436,6 +438,22 @@ public final class TextBoundsTest {
         due("there is one, of nothing", x.stored(0), 0);
     }
 
+    /** "in place of another": again and again, of those ahead nothing is left. */
+    private static void archivesInPlaceOfOthers() {
+        String[][] rows = {{shots(8).replace("law 0 carry 0", "law 2 carry 1"), pages(8), bodies(10), ""},
+            {bodies(10), shots(3), shots(2), HEAD}, {pages(8), shots(3), "", ""}, {shots(3), "", pages(2), shots(4)}};
+        for (String[] texts : rows) {
+            AsOfPages x = new AsOfPages();
+            for (String text : texts) {
+                Check.load(x, text);
+                CHECK.due("as if it were the first: '" + text + "'", Check.look(x), Check.look(CHECK.with(text)));
+                x.rule(1, 1);
+                x.add(0, 365, 3, 0);
+                x.drop(0);
+            }
+        }
+    }
+
     /** "-4: a FAULT (all else stays)". */
     private static void faultyArchive() {
         String[] texts = {"#", "archive law 3 carry 0;", pages(8) + "page i;", pages(1) + "page a", HEAD + HEAD};
@@ -518,6 +536,7 @@ public final class TextBoundsTest {
         feedOrder();
         end();
         archiveAnew();
+        archivesInPlaceOfOthers();
         faultyArchive();
         fault();
         CHECK.finish();

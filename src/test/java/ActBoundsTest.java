@@ -407,11 +407,12 @@ public final class ActBoundsTest {
             String kept = Check.look(x);
             Check.load(x, other);
             Check.look(x);
-            if (x.count(4) > 0) {
-                x.drop(0);
-                x.drop(0);
-            }
-            due("back", x.back(1), 0);
+            due("back from another look", x.back(1), 0);
+            CHECK.due("all as kept", Check.look(x), kept);
+            Check.load(x, other);
+            x.drop(0);
+            x.drop(0);
+            due("back from other acts", x.back(1), 0);
             CHECK.due("all as kept", Check.look(x), kept);
             due("undo", x.undo(), 3);
             due("undo", x.undo(), 2);

@@ -251,7 +251,7 @@ public final class CallBoundsTest {
             + "body p weight 5 part a part a part a link b link b link b link a;"
             + "body q weight 5 part a part a part a part b link b link b link b;"
             + "body r weight 5 part a part a part a part b link b link b link b link a;"
-            + "body s weight 6 part a part a part a part b link b link b link b link a;body t weight 5;");
+            + "body s weight 6 part a part a part a part b link b link b link b link a;body t weight 5 part a part a part a part b link a link b link b link a;");
         int[] least = {0, 1, 2, 3, 4, 5, 6, 0, 1, 9};
         answers("the least EQUAL one of", least, (y, b) -> y.body(b, 3), x);
         due("the last PART", x.body(0, 13), 1);
@@ -507,7 +507,10 @@ public final class CallBoundsTest {
         due("whole with PARTS", parts.whole(0, 1), 1);
         parts.drop(2);
         due("whole but for the last", parts.whole(0, 1), 0);
-        due("whole, of fewer ELEMENTS", parts.whole(1, 1), 1);
+        parts.undo();
+        parts.drop(1);
+        due("whole but for the first", parts.whole(0, 1), 0);
+        due("whole, of fewer ELEMENTS", parts.whole(2, 1), 1);
     }
 
     // Term III.
@@ -877,6 +880,24 @@ public final class CallBoundsTest {
         }
     }
 
+    /** The same by four LINKS each, three of which lead nowhere new. */
+    private static void farClicksInACrowd() {
+        StringBuilder text = new StringBuilder(pages(8));
+        for (char p = 'a'; p < 'h'; p++) {
+            text.append("body x" + p + " weight 1 link " + p + " link a link " + p + " link " + (char) (p + 1)
+                + ";shot " + p + " at 9 is x" + p + ";");
+        }
+        for (int carry = 0; carry <= 1; carry++) {
+            AsOfPages x = CHECK.with(text.toString().replace("carry 0", "carry " + carry));
+            for (int again = 0; again < 2; again++) {
+                answers("reach in a crowd by", new int[] {1, 3, 7, 15, 31, 63, 127, -2}, (y, n) -> y.reach(0, 0, n), x);
+                answers("clicks in a crowd to", new int[] {0, 1, 2, 3, 4, 5, 6, -1}, (y, to) -> y.clicks(0, 0, to), x);
+                answers("clicks from h to", new int[] {-1, -1, -1, -1, -1, -1, -1, 0}, (y, to) -> y.clicks(7, 0, to), x);
+                answers("clicks from g to", new int[] {1, 2, 3, 4, 5, 6, 0, 1}, (y, to) -> y.clicks(6, 0, to), x);
+            }
+        }
+    }
+
     /** By CARRY 1 a PAGE may be come to on several DAYS, and each leads on by itself. */
     private static void clicksOnSeveralDays() {
         AsOfPages x = CHECK.with("archive law 0 carry 1;page a;page b;page c;page d;body k weight 1 link b;"
@@ -887,6 +908,10 @@ public final class CallBoundsTest {
             answers("clicks to", new int[] {0, 1, 4, 2}, (y, to) -> y.clicks(0, 0, to), x);
             answers("clicks from b to", new int[] {-1, 0, 1, -1}, (y, to) -> y.clicks(1, 365, to), x);
         }
+        AsOfPages back = CHECK.with("archive law 0 carry 1;page a;page b;page c;body k weight 1 link b;body l weight 1 link a;"
+            + "body m weight 1 link c;shot a at 10 is k;shot b at 90 is l;shot a at 91 is m;");
+        answers("clicks over a, on another DAY", new int[] {0, 1, 3}, (y, to) -> y.clicks(0, 0, to), back);
+        answers("clicks over a from b", new int[] {1, 0, 2}, (y, to) -> y.clicks(1, 0, to), back);
         x.rule(0, 0);
         answers("clicks to by CARRY 0", new int[] {0, 1, -1, 2}, (y, to) -> y.clicks(0, 0, to), x);
         answers("clicks to by CARRY 0, later", new int[] {0, 1, 2, -1}, (y, to) -> y.clicks(0, 365, to), x);
@@ -1073,6 +1098,7 @@ public final class CallBoundsTest {
         storedAndUnused();
         click();
         farClicks();
+        farClicksInACrowd();
         clicksOnSeveralDays();
         linkingAndDead();
         spare();

@@ -1063,6 +1063,17 @@ public final class CallBoundsTest {
         unchangedBy("stored, unused", (x, page, day) -> x.stored(0) + x.stored(1) + x.unused());
     }
 
+    /** "An object is used for at most 512 calls": the 512th is answered as all ahead of it. */
+    private static void lastOfAllCalls() {
+        AsOfPages x = new AsOfPages();
+        Check.feedText(x, apart(19));
+        int feeds = 1 + (apart(19).length() + 19) / 20 + 1;
+        due("archive", x.archive(), 12);
+        for (int call = feeds + 2; call <= 512; call++) {
+            due("call " + call, x.clash(0, call % 16), 2);
+        }
+    }
+
     public static void main(String[] args) {
         noSuchPageOrDay();
         noSuchPage();
@@ -1105,6 +1116,7 @@ public final class CallBoundsTest {
         by();
         tellAndOctet();
         questionsChangeNothing();
+        lastOfAllCalls();
         CHECK.finish();
     }
 }

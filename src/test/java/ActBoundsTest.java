@@ -392,36 +392,63 @@ public final class ActBoundsTest {
         due("40 SHOTS", full.count(4), 40);
     }
 
+    /** Four acts, and an image of it all. */
+    private static AsOfPages withImage() {
+        AsOfPages x = CHECK.with(SITE);
+        x.drop(2);
+        x.rule(2, 1);
+        x.add(1, 365, 2, 0);
+        x.add(1, 300, 0, 0);
+        x.image(1);
+        return x;
+    }
+
     /** What an image has is all of it, whatever ARCHIVE there is when one goes back. */
     private static void backOverAnother() {
         String[] others = {"archive law 0 carry 0;page z;gone z at 1;gone z at 365;", HEAD, "",
             "archive law 2 carry 0;page b;page a;page d;page e;body z weight 9;body y weight 9;body x weight 8 part a;"
             + "gone a at 1;gone b at 2;gone d at 3;gone e at 4;gone e at 5;shot e at 6 is y;"};
+        String kept = Check.look(withImage());
         for (String other : others) {
-            AsOfPages x = CHECK.with(SITE);
-            x.drop(2);
-            x.rule(2, 1);
-            x.add(1, 365, 2, 0);
-            x.add(1, 300, 0, 0);
-            x.image(1);
-            String kept = Check.look(x);
+            AsOfPages x = withImage();
             Check.load(x, other);
             Check.look(x);
             due("back from another look", x.back(1), 0);
             CHECK.due("all as kept", Check.look(x), kept);
-            Check.load(x, other);
-            x.drop(0);
-            x.drop(0);
-            due("back from other acts", x.back(1), 0);
-            CHECK.due("all as kept", Check.look(x), kept);
-            due("undo", x.undo(), 3);
-            due("undo", x.undo(), 2);
-            due("SHOTS", x.count(4), 4);
-            due("undo", x.undo(), 1);
-            due("LAW", x.count(0), 1);
-            due("undo", x.undo(), 0);
-            CHECK.due("all as told", Check.look(x), Check.look(CHECK.with(SITE)));
+            AsOfPages y = withImage();
+            Check.load(y, other);
+            y.drop(0);
+            y.drop(0);
+            due("back from other acts", y.back(1), 0);
+            CHECK.due("all as kept", Check.look(y), kept);
+            due("undo", y.undo(), 3);
+            due("undo", y.undo(), 2);
+            due("SHOTS", y.count(4), 4);
+            due("undo", y.undo(), 1);
+            due("LAW", y.count(0), 1);
+            due("undo", y.undo(), 0);
+            CHECK.due("all as told", Check.look(y), Check.look(CHECK.with(SITE)));
         }
+    }
+
+    /** LAW, CARRY, PAGES, BODIES, SHOTS, acts, LINES, PARTS, LINKS: each a number of its own, kept as such. */
+    private static void backToEachNumber() {
+        AsOfPages x = CHECK.with("archive law 2 carry 1;page a;page b;page c;page d;page e;body k weight 9 part a part b link c;"
+            + "body l weight 8 link d link e link a;body m weight 7 part e;gone a at 1;gone b at 2;gone c at 3;gone d at 4;"
+            + "gone e at 5;gone a at 6;gone a at 7;gone a at 8;gone a at 9;");
+        x.drop(0);
+        x.rule(0, 1);
+        x.rule(2, 1);
+        x.drop(7);
+        int[] counts = {2, 1, 5, 3, 7, 4, 18};
+        due("image", x.image(2), 0);
+        String kept = Check.look(x);
+        due("another", Check.load(x, HEAD + "page z;"), 2);
+        due("back", x.back(2), 0);
+        for (int what = 0; what < counts.length; what++) {
+            due("count(" + what + ")", x.count(what), counts[what]);
+        }
+        CHECK.due("all as kept", Check.look(x), kept);
     }
 
     // Promises 51 and 52.
@@ -471,6 +498,70 @@ public final class ActBoundsTest {
             due("undo of act " + i, x.undo(), 0);
             CHECK.due("act " + i + " taken back", Check.look(x), told);
         }
+    }
+
+    /** A SHOT that was added is dropped, and one ahead of it: each act is taken back as what it was. */
+    private static void undoOfDroppedAdds() {
+        AsOfPages x = CHECK.with(SITE);
+        String told = Check.look(x);
+        due("add", x.add(1, 365, 2, 2), 5);
+        due("drop of the added one", x.drop(5), 5);
+        due("there is none such", x.shot(5, 0), -2);
+        due("undo", x.undo(), 1);
+        due("its DAY", x.shot(5, 1), 365);
+        due("its kind", x.shot(5, 2), 2);
+        due("the PAGE to which it moves", x.shot(5, 4), 2);
+        due("drop ahead of it", x.drop(0), 5);
+        due("one less", x.shot(4, 1), 365);
+        due("add again", x.add(0, 10, 3, 0), 5);
+        due("drop of the first added one", x.drop(4), 5);
+        due("the second is one less", x.shot(4, 1), 10);
+        due("anew", x.anew(), 4);
+        AsOfPages y = CHECK.with(SITE);
+        CHECK.due("all as told", Check.look(y), told);
+        y.add(1, 365, 2, 2);
+        y.drop(0);
+        y.add(0, 10, 3, 0);
+        y.drop(4);
+        due("all taken back", y.anew(), 4);
+        CHECK.due("all as told again", Check.look(y), told);
+    }
+
+    /** With more SHOTS than LINES: what is taken back is the very one, at its very place. */
+    private static void undoAmongMany() {
+        AsOfPages x = CHECK.with(goneDays(40));
+        for (int i = 0; i < 15; i++) {
+            x.add(1, i, 3, 0);
+        }
+        String many = shortLook(x);
+        due("drop of the first", x.drop(0), 54);
+        due("drop of the last", x.drop(53), 53);
+        due("drop in between", x.drop(45), 52);
+        due("add", x.add(1, 365, 1, 0), 52);
+        due("undo", x.undo(), 18);
+        due("the last", x.shot(51, 1), 13);
+        due("undo", x.undo(), 17);
+        due("in between", x.shot(45, 1), 6);
+        due("undo", x.undo(), 16);
+        due("undo", x.undo(), 15);
+        CHECK.due("all 55 as they were", shortLook(x), many);
+        due("undo of an add", x.undo(), 14);
+        due("the last is gone", x.shot(54, 0), -2);
+        due("the one ahead is not", x.shot(53, 1), 13);
+        due("one of the told is not", x.shot(39, 1), 39);
+    }
+
+    /** An ARCHIVE without PAGES has acts, too: those of rule. */
+    private static void undoWithoutPages() {
+        AsOfPages x = CHECK.with(HEAD);
+        due("rule", x.rule(2, 1), 0);
+        due("undo", x.undo(), 0);
+        due("LAW and CARRY as told", x.count(0) + x.count(1), 0);
+        due("rule", x.rule(1, 0), 0);
+        due("rule", x.rule(1, 1), 0);
+        due("anew", x.anew(), 2);
+        due("LAW and CARRY as told", x.count(0) + x.count(1), 0);
+        due("undo of none", x.undo(), -5);
     }
 
     /** "All are: how many there were. -2 likewise". */
@@ -523,8 +614,12 @@ public final class ActBoundsTest {
         image();
         imagesApart();
         back();
+        backToEachNumber();
         undo();
         undoOfOne();
+        undoOfDroppedAdds();
+        undoAmongMany();
+        undoWithoutPages();
         anew();
         actsAgain();
         CHECK.finish();

@@ -258,6 +258,38 @@ public final class CallBoundsTest {
         due("the last LINK", x.body(0, 23), 0);
     }
 
+    /** The same where there are not as many PARTS as LINKS. */
+    private static void equalBodiesUneven() {
+        AsOfPages x = CHECK.with(HEAD + "page a;page b;body k weight 5 part a part b link a;body l weight 5 part a part b link a;"
+            + "body m weight 5 part a part a link a;body n weight 5 part a link a link b;body o weight 5 part a link a link b;"
+            + "body p weight 5 part a link a link a;body q weight 5 part a;body r weight 5 link a;body s weight 5;"
+            + "body t weight 5 part a part b;");
+        answers("the least EQUAL one of", new int[] {0, 0, 2, 3, 3, 5, 6, 7, 8, 9}, (y, b) -> y.body(b, 3), x);
+        answers("PARTS of", new int[] {2, 2, 2, 1, 1, 1, 1, 0, 0, 2}, (y, b) -> y.body(b, 1), x);
+        answers("LINKS of", new int[] {1, 1, 1, 2, 2, 2, 0, 1, 0, 0}, (y, b) -> y.body(b, 2), x);
+        for (int b = 0; b < 10; b++) {
+            int of = b;
+            answers("PARTS are as many, of " + b, new int[] {x.body(b, 1), x.body(b, 2)},
+                (y, sort) -> (y.body(of, 10 + 10 * sort) < 0 ? 0 : 1) + (y.body(of, 11 + 10 * sort) < 0 ? 0 : 1)
+                    + (y.body(of, 12 + 10 * sort) < 0 ? 0 : 1), x);
+        }
+    }
+
+    /** BODIES of one WEIGHT are not EQUAL by that. */
+    private static void bodiesOfOneWeight() {
+        AsOfPages x = CHECK.with(pages(4) + "body k weight 5;body l weight 5 part b;body m weight 5 link b;"
+            + "body n weight 5 part a part b;shot a at 1 is k;shot a at 2 is l;shot a at 3 is m;shot c at 1 is n;"
+            + "shot b at 1 is m;");
+        runOf(x, 0, 1, 1, 0, 1, 1);
+        runOf(x, 1, 2, 2, 2, 2, 1);
+        runOf(x, 2, 3, 3, 3, 365, 1);
+        due("runs", x.runs(0), 3);
+        due("stored(1)", x.stored(1), 20);
+        due("stored(0)", x.stored(0), 25);
+        due("heavy", x.heavy(2, 1), 15);
+        due("spare", x.spare(), 0);
+    }
+
     /** "10 and more: PARTS, 20 and more: LINKS. NONE: it has not so many (10 .. 13, 20 .. 23); -2: .. none such". */
     private static void partsOfBodies() {
         AsOfPages x = CHECK.with(HEAD + "page a;page b;body k weight 5;body l weight 6 part b part a part b part a"
@@ -441,6 +473,96 @@ public final class CallBoundsTest {
         due("octet, ahead of that", x.octet(675), '!');
     }
 
+    private static void turnsOn(String what, int before, int behind, OfPage call, AsOfPages x) {
+        due(what + " on DAY 15", call.ask(x, 15), before);
+        due(what + " on DAY 16", call.ask(x, 16), behind);
+    }
+
+    /** PAGE 1 has another SHOT from DAY 16 on, with other PARTS and LINKS. */
+    private static final String TURN = HEAD + "page z;page a;page b;page c;page d;body k weight 3 part b link c;"
+        + "body l weight 5 part c part d link b link d;body m weight 7;"
+        + "shot a at 10 is k;shot a at 20 is l;shot b at 10 is m;shot c at 300 is m;gone z at 100;";
+
+    /** Each call that names a DAY: on the last one of a SHOT, on the first one of the next. */
+    private static void onTheDayOfATurn() {
+        AsOfPages x = CHECK.with(TURN);
+        turnsOn("nearest", 0, 1, (y, day) -> y.nearest(1, day), x);
+        turnsOn("follow", 0, 1, (y, day) -> y.follow(1, day, 0), x);
+        turnsOn("followed", 0, 1, (y, day) -> y.followed(1, day, 0), x);
+        turnsOn("view", 2, 3, (y, day) -> y.view(1, day), x);
+        turnsOn("element", 2, 3, (y, day) -> y.element(1, day, 1, 0), x);
+        turnsOn("element behind the last", -1, 4, (y, day) -> y.element(1, day, 2, 0), x);
+        turnsOn("whole", 1, 0, (y, day) -> y.whole(1, day), x);
+        turnsOn("judged", 2, 1, (y, day) -> y.judged(1, day), x);
+        turnsOn("common SURE", 10, -1, (y, day) -> y.common(1, day, 0), x);
+        turnsOn("common MAY", 0, 11, (y, day) -> y.common(1, day, 2), x);
+        turnsOn("common MAY, the last", 19, 365, (y, day) -> y.common(1, day, 3), x);
+        turnsOn("spread", 0, 280, (y, day) -> y.spread(1, day), x);
+        turnsOn("farthest", 0, 1, (y, day) -> y.farthest(1, day), x);
+        turnsOn("heavy", 3 + 7, 5 + 7, (y, day) -> y.heavy(1, day), x);
+        turnsOn("drift", 5 + 5, 4 + 284, (y, day) -> y.drift(1, day), x);
+        turnsOn("both", 2, 1, (y, day) -> y.both(1, 2, day), x);
+        turnsOn("both, the other", 2, 1, (y, day) -> y.both(2, 1, day), x);
+        turnsOn("by CARRY 1", 2, 1, (y, day) -> y.by(1, day, 0, 1), x);
+        turnsOn("by LAW 1, a DAY ahead", 2, 1, (y, day) -> y.by(1, day - 1, 1, 0), x);
+        turnsOn("by LAW 2, four behind", 2, 1, (y, day) -> y.by(1, day + 4, 2, 0), x);
+        turnsOn("click", 3, 2, (y, day) -> y.click(1, day, 0, 0), x);
+        turnsOn("click on the second LINK", -1, 4, (y, day) -> y.click(1, day, 1, 0), x);
+        turnsOn("click, DAY", 15, 16, (y, day) -> y.click(1, day, 0, 1), x);
+        turnsOn("reach", 2 + 8, 2 + 4 + 16, (y, day) -> y.reach(1, day, 6), x);
+        turnsOn("clicks", 1, -1, (y, day) -> y.clicks(1, day, 3), x);
+        turnsOn("clicks to d", -1, 1, (y, day) -> y.clicks(1, day, 4), x);
+        turnsOn("linking", 2, 0, (y, day) -> y.linking(3, day), x);
+        turnsOn("linking to d", 0, 2, (y, day) -> y.linking(4, day), x);
+        turnsOn("dead", 0, 16, (y, day) -> y.dead(day), x);
+        turnsOn("tell", 12, 17, (y, day) -> y.tell(1, day), x);
+        CHECK.due("TOLD on DAY 15", told(x, 1, 15), "p1@10[p2@10]");
+        CHECK.due("TOLD on DAY 16", told(x, 1, 16), "p1@20[p3@300 p4-]");
+        answers("days", new int[] {0, 350, 16}, (y, judged) -> y.days(1, judged), x);
+        answers("firstDay", new int[] {-1, 16, 0}, (y, judged) -> y.firstDay(1, judged), x);
+        answers("bothOn", new int[] {-1, 16, 0}, (y, judged) -> y.bothOn(1, 2, judged), x);
+        answers("bothOn, the other", new int[] {-1, 16, 0}, (y, judged) -> y.bothOn(2, 1, judged), x);
+        answers("change", new int[] {16, -1}, (y, k) -> y.change(1, k), x);
+        due("bestDay", x.bestDay(1), 10);
+        AsOfPages y = CHECK.with(apart(19));
+        turnsOn("IMPOSSIBLE", 0, 2, (z, day) -> z.judged(0, day), y);
+        turnsOn("clash", 2, -1, (z, day) -> z.clash(0, day), y);
+        turnsOn("culprit", 0, -1, (z, day) -> z.culprit(0, day), y);
+    }
+
+    /** A SHOT that is NEAREST to one DAY alone, in the midst of the year: on that DAY alone the VIEW is another. */
+    private static void forOneDay() {
+        AsOfPages x = CHECK.with("archive law 2 carry 0;page z;page a;page b;body k weight 1 part b;body m weight 2;"
+            + "shot a at 50 is k;same a at 100;gone b at 10;shot b at 100 is m;gone b at 101;");
+        answers("days", new int[] {0, 365, 1}, (y, judged) -> y.days(1, judged), x);
+        answers("firstDay", new int[] {-1, 0, 100}, (y, judged) -> y.firstDay(1, judged), x);
+        answers("bothOn", new int[] {-1, 0, 100}, (y, judged) -> y.bothOn(1, 2, judged), x);
+        answers("bothOn, the other", new int[] {-1, 0, 100}, (y, judged) -> y.bothOn(2, 1, judged), x);
+        answers("change", new int[] {100, 101, -1}, (y, k) -> y.change(1, k), x);
+        due("bestDay", x.bestDay(1), 100);
+        answers("whole on DAY 99 and behind", new int[] {0, 1, 0}, (y, i) -> y.whole(1, 99 + i), x);
+        answers("judged on DAY 99 and behind", new int[] {1, 2, 1}, (y, i) -> y.judged(1, 99 + i), x);
+        // Without the same a has its BODY all the same; without any other some DAY is another.
+        due("spare", x.spare(), 2);
+    }
+
+    /** "on to NEAREST of the PAGE to which it moves, to d by CARRY 0": on the DAY of that one's turn. */
+    private static void movesOnTheDayOfATurn() {
+        AsOfPages x = CHECK.with(TURN);
+        due("a move", x.add(0, 50, 2, 1), 5);
+        x.drop(4);
+        turnsOn("follow", 0, 1, (y, day) -> y.follow(0, day, 0), x);
+        turnsOn("followed", 0, 1, (y, day) -> y.followed(0, day, 1), x);
+        turnsOn("a PART", 2, 3, (y, day) -> y.element(0, day, 1, 0), x);
+        turnsOn("click", 3, 2, (y, day) -> y.click(0, day, 0, 0), x);
+        due("to the DAY of the move by CARRY 1", x.rule(0, 1), 0);
+        turnsOn("follow by CARRY 1", 1, 1, (y, day) -> y.follow(0, day, 0), x);
+        // A PART in a, moved to b, on the DAY of a turn of b.
+        AsOfPages part = CHECK.with(HEAD + "page a;page b;page c;body k weight 1 part c;shot a at 0 is k;move c at 0 to b;"
+            + "gone b at 10;gone b at 20;");
+        turnsOn("a PART that moves", 2, 3, (y, day) -> y.element(0, day, 1, 1), part);
+    }
+
     /** "A PART that is the PAGE (as asked, not as FOLLOWED to) of an ELEMENT in which it lies is NESTED". */
     private static void nested() {
         CHECK.due("in itself", told(CHECK.with(STATES), 5, 9), "p5@9[p5^]");
@@ -567,6 +689,12 @@ public final class CallBoundsTest {
         due("runs behind a BROKEN one", broken.runs(0), 1);
         AsOfPages all = CHECK.with(goneDays(40));
         runOf(all, 39, 0, 39, 0, 365, 40);
+        // SHOTS "of its PAGE": those of others, ahead and behind, are none of the RUN.
+        AsOfPages three = CHECK.with(pages(3) + "body k weight 1;shot a at 1 is k;shot b at 2 is k;shot c at 3 is k;");
+        for (int page = 0; page < 3; page++) {
+            due("runs of PAGE " + page + " alone", three.runs(page), 1);
+            runOf(three, page, page + 1, page + 1, 0, 365, 1);
+        }
     }
 
     /** "2 PROVED, if there is a DAY in all SURE SPANS": one is enough, none by one DAY. */
@@ -582,6 +710,49 @@ public final class CallBoundsTest {
             due("both, b from " + row[0], x.both(1, 0, 20), row[1]);
             due("the first MAY DAY, b from " + row[0], x.common(0, 20, 2), 0);
             due("the last MAY DAY, b from " + row[0], x.common(0, 20, 3), 365);
+        }
+    }
+
+    /** "BROKEN, LOST, ROUND, NESTED ELEMENTS have none", a move ahead of that neither; "Without SPANS 0, 365", "2". */
+    private static void withoutSpans() {
+        AsOfPages x = CHECK.with(pages(5) + "same b at 9;move c at 9 to c;move d at 9 to a;move e at 9 to b;"
+            + "gone c at 20;gone d at 20;gone e at 20;");
+        answers("STATE of PAGE", new int[] {3, 2, 4, 3, 2}, (y, page) -> y.follow(page, 0, 2), x);
+        for (int page = 0; page < 5; page++) {
+            int of = page;
+            answers("common without SPANS of PAGE " + page, new int[] {0, 365, 0, 365}, (y, what) -> y.common(of, 0, what), x);
+            due("judged without SPANS", x.judged(page, 0), 2);
+            due("both without SPANS", x.both(page, 4 - page, 0), 2);
+            due("clash without SPANS", x.clash(page, 0), -1);
+            due("culprit without SPANS", x.culprit(page, 0), -1);
+        }
+        for (int page = 2; page < 5; page++) {
+            int of = page;
+            answers("common of PAGE " + page + ", gone", new int[] {20, 20, 10, 365}, (y, what) -> y.common(of, 20, what), x);
+        }
+        // A move ahead of what is gone has SPANS: by it DAY 9 is the only SURE one, DAY 19 the last that may be.
+        AsOfPages moved = CHECK.with(pages(2) + "move a at 9 to b;gone a at 20;gone b at 5;gone b at 300;");
+        answers("common behind a move", new int[] {9, 9, 0, 19}, (y, what) -> y.common(0, 0, what), moved);
+    }
+
+    /** "by all SPANS of VIEWS of two PAGES (one and itself, too) on a DAY together", "The first DAY .. NONE". */
+    private static void bothByOneDay() {
+        String text = apart(99).replace("at 99", "at #").replace("body k weight 1 part b", "body k weight 1");
+        int[][] rows = {{17, 1, -1, 0}, {18, 1, -1, 0}, {19, 0, 0, 16}, {20, 0, 0, 16}};
+        for (int[] row : rows) {
+            AsOfPages x = CHECK.with(text.replace("#", String.valueOf(row[0])));
+            String what = ", gone on DAY " + row[0];
+            due("a alone" + what, x.judged(0, 0), 2);
+            due("b alone" + what, x.judged(1, 0), 1);
+            due("both" + what, x.both(0, 1, 0), row[1]);
+            due("both, the other first" + what, x.both(1, 0, 0), row[1]);
+            due("a and itself" + what, x.both(0, 0, 0), 2);
+            due("b and itself" + what, x.both(1, 1, 0), 1);
+            // From DAY 16 on a is gone, and was from DAY 11 on, maybe.
+            due("both on DAY 15" + what, x.both(0, 1, 15), row[1]);
+            due("both on DAY 16" + what, x.both(0, 1, 16), 1);
+            answers("bothOn" + what, new int[] {row[2], row[3], -1}, (y, judged) -> y.bothOn(0, 1, judged), x);
+            answers("bothOn of a and itself" + what, new int[] {-1, -1, 0}, (y, judged) -> y.bothOn(0, 0, judged), x);
         }
     }
 
@@ -687,6 +858,20 @@ public final class CallBoundsTest {
         due("farthest, the first of several", y.farthest(0, 14), 1);
         due("farthest, the first of all", y.farthest(0, 15), 0);
         due("farthest, off by none", CHECK.with(STATES).farthest(0, 9), 0);
+    }
+
+    /** "off from the DAY asked for", not from that to which CARRY 1 leads; "at which ELEMENTS END", not their moves. */
+    private static void offFromTheDayAskedFor() {
+        AsOfPages x = CHECK.with("archive law 0 carry 1;page a;page b;page c;body k weight 1 part b;body l weight 1;"
+            + "shot a at 50 is k;shot b at 20 is l;move c at 300 to a;");
+        int[][] rows = {{0, 90, 40 + 70, 1, 30}, {0, 0, 50 + 20, 0, 30}, {0, 35, 15 + 15, 0, 30}, {0, 36, 14 + 16, 1, 30},
+            {2, 300, 250 + 280, 1, 30}, {1, 300, 280, 0, 0}};
+        for (int[] row : rows) {
+            String what = " of PAGE " + row[0] + " on DAY " + row[1];
+            due("drift" + what, x.drift(row[0], row[1]), row[2]);
+            due("farthest" + what, x.farthest(row[0], row[1]), row[3]);
+            due("spread" + what, x.spread(row[0], row[1]), row[4]);
+        }
     }
 
     /** "WEIGHT of all BODIES in the VIEW, EQUAL ones once". */
@@ -832,6 +1017,9 @@ public final class CallBoundsTest {
         AsOfPages y = CHECK.with(STATES);
         due("stored(0), gone, BROKEN, moves aside", y.stored(0), 15);
         due("stored(1)", y.stored(1), 15);
+        due("unused, none, as told", y.unused(), 0);
+        y.drop(0);
+        due("unused, of a dropped SHOT", y.unused(), 1);
     }
 
     // Term IV.
@@ -917,6 +1105,23 @@ public final class CallBoundsTest {
         answers("clicks to by CARRY 0, later", new int[] {0, 1, 2, -1}, (y, to) -> y.clicks(0, 365, to), x);
     }
 
+    /** With 60 SHOTS: from the last of them to the last PAGE, and from the first. */
+    private static void clicksFromTheLastShot() {
+        StringBuilder text = new StringBuilder(pages(8).replace("carry 0", "carry 1") + "body r weight 1 link d;"
+            + "body q weight 1 link c link b link h;shot b at 5 is r;");
+        for (int day = 0; day < 39; day++) {
+            text.append("gone e at ").append(day).append(';');
+        }
+        AsOfPages x = CHECK.with(text.toString());
+        for (int i = 0; i < 19; i++) {
+            x.add(4, 100 + i, 3, 0);
+        }
+        due("the last SHOT", x.add(0, 365, 0, 1), 59);
+        due("reach by 1", x.reach(0, 365, 1), 1 + 2 + 4 + 128);
+        due("reach by 2", x.reach(0, 365, 2), 1 + 2 + 4 + 8 + 128);
+        answers("clicks to", new int[] {0, 1, 1, 2, -1, -1, -1, 1}, (y, to) -> y.clicks(0, 0, to), x);
+    }
+
     /** "PAGES (bits) that .. END at a BODY with a LINK to a PAGE"; "to which .. some LINK .. leads, .. do not END at a BODY". */
     private static void linkingAndDead() {
         AsOfPages x = CHECK.with(pages(6) + "body k weight 1 link b link c link d link e;body l weight 1 link a link f;"
@@ -942,6 +1147,30 @@ public final class CallBoundsTest {
         some.rule(0, 0);
         due("dead by none", some.dead(55), 0);
         due("dead from DAY 56 on", some.dead(56), 2);
+    }
+
+    /** "FOLLOWED from d it ENDS at a BODY: .. on the DAY of that SHOT by CARRY 1": behind a move, not the move's. */
+    private static void clicksBehindMoves() {
+        AsOfPages x = CHECK.with("archive law 0 carry 1;page a;page b;page c;body k weight 1 link c;body l weight 1;"
+            + "move a at 50 to b;shot b at 20 is k;gone c at 20;shot c at 50 is l;");
+        due("PAGE", x.click(0, 90, 0, 0), 2);
+        due("DAY by CARRY 1", x.click(0, 90, 0, 1), 20);
+        due("dead on the DAY come to", x.dead(90), 4);
+        due("linking, by a move, too", x.linking(2, 90), 3);
+        due("FOLLOWED to is not come to", x.reach(0, 90, 6), 1 + 4);
+        answers("clicks to", new int[] {0, -1, 1}, (y, to) -> y.clicks(0, 90, to), x);
+        x.rule(0, 0);
+        due("DAY by CARRY 0", x.click(0, 90, 0, 1), 90);
+        due("not dead on DAY 90", x.dead(90), 0);
+        due("dead on DAY 35", x.dead(35), 4);
+        due("not dead on DAY 36", x.dead(36), 0);
+        // The PAGE to which the LINK leads is dead, not that to which it moves.
+        AsOfPages y = CHECK.with(pages(4) + "body k weight 1 link b link c;shot a at 9 is k;move b at 9 to d;"
+            + "move c at 9 to a;gone d at 9;");
+        due("dead by a move", y.dead(0), 2);
+        due("linking by a move", y.linking(1, 0), 1 + 4);
+        due("reach, moves and all", y.reach(0, 0, 6), 7);
+        due("clicks to what is moved to", y.clicks(0, 0, 3), -1);
     }
 
     // Promises 41, 43 to 45.
@@ -980,6 +1209,43 @@ public final class CallBoundsTest {
         due("spare, by b", states.spare(), 0);
         states.drop(1);
         due("spare, gone by b", states.spare(), 1 + 2);
+    }
+
+    /** "on each DAY": one is enough, wherever by a LAW it lies; a same without its shot is BROKEN. */
+    private static void spareButForOneDay() {
+        // The second SHOT alone makes DAY 6 by LAW 0, DAY 5 by LAW 1 one of the BODY's; by LAW 2 none.
+        int[] due = {1, 1, 3};
+        for (int law = 0; law <= 2; law++) {
+            AsOfPages x = CHECK.with("archive law " + law + " carry 0;page a;body k weight 1;shot a at 0 is k;shot a at 2 is k;"
+                + "gone a at 10;");
+            due("spare by LAW " + law, x.spare(), due[law]);
+        }
+        String[] texts = {"shot a at 1 is k;same a at 365;", "shot a at 1 is k;shot a at 9 is l;",
+            "shot a at 1 is k;shot a at 9 is m;", "shot a at 1 is k;same a at 2;same a at 3;", "same a at 1;same a at 2;",
+            "shot a at 1 is k;gone a at 2;same a at 3;gone a at 4;"};
+        int[] spare = {2, 3, 0, 6, 3, 0};
+        for (int i = 0; i < texts.length; i++) {
+            due("spare of " + texts[i], CHECK.with("archive law 2 carry 0;page a;body k weight 1;body l weight 1;"
+                + "body m weight 2;" + texts[i]).spare(), spare[i]);
+        }
+        // By CARRY 1 a comes to b on DAY 50, where either of two SHOTS will do, but one has to be there.
+        AsOfPages moved = CHECK.with("archive law 2 carry 1;page a;page b;body k weight 1;move a at 50 to b;"
+            + "shot b at 0 is k;shot b at 50 is k;gone b at 51;");
+        due("spare, each for itself", moved.spare(), 2 + 4);
+        moved.drop(2);
+        due("not both", moved.spare(), 0);
+    }
+
+    /** "as they have now": by the LAW and CARRY that there are. */
+    private static void spareByCarry() {
+        for (int law = 0; law <= 2; law++) {
+            for (int carry = 0; carry <= 1; carry++) {
+                AsOfPages x = CHECK.with("archive law " + law + " carry " + carry + ";page a;page b;page c;body k weight 1;"
+                    + "body l weight 2;move a at 0 to b;shot b at 0 is k;shot b at 100 is l;gone c at 1;gone c at 2;");
+                due("spare by LAW " + law + ", CARRY " + carry, x.spare(), 8 + 16);
+                due("a on DAY 365", x.follow(0, 365, 0), carry == 0 ? 2 : 1);
+            }
+        }
     }
 
     /** "JUDGED, were LAW, CARRY others": none becomes so by it. */
@@ -1082,6 +1348,8 @@ public final class CallBoundsTest {
         count();
         bodiesOfSame();
         equalBodies();
+        equalBodiesUneven();
+        bodiesOfOneWeight();
         partsOfBodies();
         byDay();
         nearest();
@@ -1091,16 +1359,22 @@ public final class CallBoundsTest {
         crowd();
         nested();
         partsCarried();
+        onTheDayOfATurn();
+        forOneDay();
+        movesOnTheDayOfATurn();
         states();
         runBounds();
         runsOfLike();
         provedByOneDay();
+        withoutSpans();
         openByOneDay();
+        bothByOneDay();
         lateClash();
         clashOfTheLater();
         clashOfNeighbours();
         clashOfOne();
         spreadAndFarthest();
+        offFromTheDayAskedFor();
         heavy();
         daysJudged();
         changes();
@@ -1111,8 +1385,12 @@ public final class CallBoundsTest {
         farClicks();
         farClicksInACrowd();
         clicksOnSeveralDays();
+        clicksFromTheLastShot();
         linkingAndDead();
+        clicksBehindMoves();
         spare();
+        spareButForOneDay();
+        spareByCarry();
         by();
         tellAndOctet();
         questionsChangeNothing();

@@ -53,8 +53,8 @@ final class Check {
                 .append(' ').append(x.shot(s, 3)).append(' ').append(x.shot(s, 4));
         }
         for (int b = 0; b <= x.count(3); b++) {
-            seen.append("\n").append(x.body(b, 0)).append(' ').append(x.body(b, 3)).append(' ').append(x.body(b, 10))
-                .append(' ').append(x.body(b, 20));
+            seen.append("\n").append(x.body(b, 0)).append(' ').append(x.body(b, 1)).append(' ').append(x.body(b, 2))
+                .append(' ').append(x.body(b, 3)).append(' ').append(x.body(b, 10)).append(' ').append(x.body(b, 20));
         }
         for (int p = 0; p <= x.count(2); p++) {
             seen.append("\n").append(x.shots(p)).append(' ').append(x.follow(p, 100, 0)).append(' ')

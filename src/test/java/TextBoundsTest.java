@@ -285,6 +285,30 @@ public final class TextBoundsTest {
         CHECK.failsAt(pages(7) + "page |g;", 2);
     }
 
+    /** "not told, of the other sort": with all PAGES and BODIES told, and behind another text that told the NAME. */
+    private static void namesOfTheOtherSort() {
+        String all = pages(8) + bodies(10).substring(HEAD.length());
+        for (char body = 'k'; body <= 't'; body++) {
+            CHECK.failsAt(all + "gone |" + body + " at 1;", 2);
+            CHECK.failsAt(all + "move a at 1 to |" + body + ";", 2);
+            CHECK.failsAt(pages(8) + bodies(9).substring(HEAD.length()) + "body z weight 1 part |" + body + ";", 2);
+        }
+        for (char page = 'a'; page <= 'h'; page++) {
+            CHECK.failsAt(all + "shot a at 1 is |" + page + ";", 2);
+            CHECK.tells(all + "gone " + page + " at 1;move a at 2 to " + page + ";", 21);
+        }
+        String[] others = {"gone |b at 1;", "move z at 1 to |h;", "shot z at 1 is |k;", "gone |k at 1;",
+            "body y weight 1 link |c;", "body y weight 1;shot z at 1 is |t;"};
+        for (String other : others) {
+            AsOfPages x = CHECK.with(all);
+            String text = HEAD + "page z;" + other;
+            due("a NAME of another text", Check.load(x, text.replace("|", "")), -4);
+            due("its FAULT", x.fault(0), 2);
+            due("its place", x.fault(1), text.indexOf('|'));
+            due("NAMES of another text are free", Check.load(x, HEAD + "body a weight 1;page k;shot k at 1 is a;"), 4);
+        }
+    }
+
     // Term I, the faults.
 
     /** "the first by its place": whatever kind stands behind it. */
@@ -314,6 +338,27 @@ public final class TextBoundsTest {
         CHECK.fails(HEAD + "body k weight " + "0".repeat(1200 - HEAD.length() - 15) + "1", 1, 1200);
         CHECK.fails(HEAD + " ".repeat(1200 - HEAD.length() - 6) + "page a", 1, 1200);
         CHECK.fails(HEAD + "page a" + " ".repeat(1200 - HEAD.length() - 6), 1, 1200);
+    }
+
+    /** "a TOKEN's first byte": not that of the blanks ahead of it, nor where the token ahead ends. */
+    private static void placeOfAToken() {
+        CHECK.failsAt("archive \n  |lax 0 carry 0;", 1);
+        CHECK.failsAt(" \n|archiv", 1);
+        CHECK.failsAt("archive law  |3  carry 0;", 2);
+        CHECK.failsAt(HEAD + "page  |abcdefg  ;", 2);
+        CHECK.failsAt(pages(8) + "  |page  i;", 3);
+        CHECK.failsAt(HEAD + "page a|1;", 1);
+        CHECK.failsAt(HEAD + "page |1a;", 1);
+        CHECK.failsAt(HEAD + "body k weight 1|x;", 1);
+        CHECK.failsAt(HEAD + "body k weight |x;", 1);
+        CHECK.failsAt(HEAD + "body k weight |;", 1);
+        CHECK.failsAt(HEAD + "page |;", 1);
+        CHECK.failsAt(ONE + "shot a at 1 is k |is k;", 1);
+        CHECK.failsAt(ONE + "same a at 1 |is k;", 1);
+        CHECK.failsAt(ONE + "gone a at 1 |to a;", 1);
+        CHECK.failsAt(ONE + "move a at 1 |is k;", 1);
+        CHECK.failsAt(ONE + "shot a at 1 |to a;", 1);
+        CHECK.failsAt(ONE + "shot a |1 is k;", 1);
     }
 
     /** "of one place the least": a fifth part that can't stand there. */
@@ -534,8 +579,10 @@ public final class TextBoundsTest {
         nameLengths();
         wordsThatAreNoNames();
         namesTwice();
+        namesOfTheOtherSort();
         firstByPlace();
         placeOfTheEnd();
+        placeOfAToken();
         leastOfOnePlace();
         archiveAndNames();
         feedUpToTheEnd();

@@ -21,12 +21,15 @@ public final class OracleTest {
     private final Oracle oracle = new Oracle();
     private final StringBuilder log = new StringBuilder();
     private final boolean crowded;
+    /** Parts of parts on other days, long ways of links: views that are impossible are rare without. */
+    private final boolean tangled;
     private final int calendar;
     private int calls;
 
     private OracleTest(int seed) {
         random = new Random(seed);
-        crowded = seed % 4 == 0;
+        tangled = seed % 4 == 2;
+        crowded = seed % 4 == 0 || tangled;
         calendar = seed % 3 == 0 ? 365 : seed % 3 == 1 ? 20 : 60;
     }
 
@@ -43,17 +46,18 @@ public final class OracleTest {
     private String text() {
         int pages = crowded ? 5 + below(4) : 1 + below(5);
         int bodies = crowded ? 4 + below(7) : 1 + below(5);
-        StringBuilder text = new StringBuilder("archive law " + below(3) + " carry " + below(2) + ";");
+        int carry = tangled && !oneIn(5) ? 1 : below(2);
+        StringBuilder text = new StringBuilder("archive law " + below(3) + " carry " + carry + ";");
         for (int p = 0; p < pages; p++) {
             text.append("page ").append(page(p)).append(';');
         }
         for (int b = 0; b < bodies; b++) {
             text.append("body ").append((char) ('k' + b)).append(" weight ").append(1 + below(3));
-            for (int i = below(crowded ? 5 : 4); i > 0; i--) {
+            for (int i = tangled ? 1 + below(2) : below(crowded ? 5 : 4); i > 0; i--) {
                 text.append(" part ").append(page(below(pages)));
             }
-            for (int i = below(4); i > 0; i--) {
-                text.append(" link ").append(page(below(pages)));
+            for (int i = tangled ? 1 : below(4); i > 0; i--) {
+                text.append(" link ").append(page(tangled ? (b + 1) % pages : below(pages)));
             }
             text.append(';');
         }
@@ -67,14 +71,14 @@ public final class OracleTest {
 
     private void shots(StringBuilder text, int pages, int bodies) {
         boolean[] taken = new boolean[8 * 366];
-        for (int i = below(crowded ? 41 : 21); i > 0 && text.length() < 1180; i--) {
+        for (int i = tangled ? 40 : below(crowded ? 41 : 21); i > 0 && text.length() < 1180; i--) {
             int p = below(pages);
             int day = below(calendar + 1);
             if (taken[p * 366 + day]) {
                 continue;
             }
             taken[p * 366 + day] = true;
-            int kind = "0000011223".charAt(below(10)) - '0';
+            int kind = (tangled ? "0000000122" : "0000011223").charAt(below(10)) - '0';
             text.append("shot,same,move,gone".split(",")[kind]).append(' ').append(page(p)).append(" at ").append(day);
             if (kind == 0) {
                 text.append(" is ").append((char) ('k' + below(bodies)));
@@ -227,10 +231,27 @@ public final class OracleTest {
         }
     }
 
+    /** Of each page a day on which its view is impossible, and the ways of links from it. */
+    private void tangles() {
+        for (int page = 0; page < oracle.count(2); page++) {
+            int day = oracle.firstDay(page, 0);
+            if (day >= 0) {
+                for (String name : List.of("judged", "clash", "culprit", "spread", "farthest", "drift", "tell")) {
+                    call(name, page, day);
+                }
+            }
+            call("clicks", page, below(calendar + 1), below(oracle.count(2)));
+            call("reach", page, below(calendar + 1), below(7));
+        }
+    }
+
     private void run() {
         while (calls < MOST_CALLS) {
             load();
             for (int i = 1 + below(5); i > 0; i--) {
+                if (tangled) {
+                    tangles();
+                }
                 if (oneIn(3)) {
                     wholeView();
                 }
